@@ -861,11 +861,13 @@ public final class PieceMirror {
 
     /** Lifts that pairs allow. A piece that is out has the one lift 0, so that it makes no way more or less. */
     private static final class Stars {
-        static final int ALL_DIFFERENCES = (1 << 4 * MOST_REACH + 1) - 1;
+        static final int FAR = 2 * MOST_REACH;
+        static final int ALL = (1 << 2 * FAR + 1) - 1;
+        static final int PASSES = 1000;
 
-        /** By lower and higher piece: bit d + 12 is set, if the higher may stand d above the lower. */
+        /** By two pieces: bit d + FAR is set, if the second may stand d above the first. */
         final int[][] fits = new int[MOST_PIECES][MOST_PIECES];
-        /** By how many pieces have their lift, and by piece: bit v + 6 is set, if it may still have lift v. */
+        /** By how many pieces have their lift, and by piece: bit v + MOST_REACH is set, if it may still have lift v. */
         final int[][] open = new int[MOST_PIECES][MOST_PIECES];
         final int[] now = new int[MOST_PIECES];
         final int[] first = new int[MOST_PIECES];
@@ -883,32 +885,74 @@ public final class PieceMirror {
                     isLeast = false;
                 }
                 for (int j = 0; j < MOST_PIECES; j++) {
-                    fits[i][j] = ALL_DIFFERENCES;
+                    fits[i][j] = ALL;
                 }
             }
         }
 
         void admit(Pair pair) {
-            int a = pair.first.number;
-            int b = pair.second.number;
             int bits = 0;
-            for (int d = -2 * MOST_REACH; d <= 2 * MOST_REACH; d++) {
-                if (pair.allows(a < b ? d : -d)) {
-                    bits |= 1 << d + 2 * MOST_REACH;
+            for (int d = -FAR; d <= FAR; d++) {
+                if (pair.allows(d)) {
+                    bits |= 1 << d + FAR;
                 }
             }
-            fits[Math.min(a, b)][Math.max(a, b)] &= bits;
+            restrict(pair.first.number, pair.second.number, bits);
         }
 
         int waysUpTo(int most) {
             found = 0;
             limit = most;
-            join(0);
+            if (settleByThirds()) {
+                join(0);
+            }
             return found;
         }
 
         int firstOf(int piece) {
             return first[piece];
+        }
+
+        private boolean restrict(int i, int j, int bits) {
+            int left = fits[i][j] & bits;
+            boolean isNew = left != fits[i][j];
+            fits[i][j] = left;
+            fits[j][i] = Integer.reverse(left) >>> 31 - 2 * FAR;
+            return isNew;
+        }
+
+        /**
+         * Leaves two pieces only differences that a third allows; false if two have none left.
+         * The search alone would find a quarrel of late pieces too, but anew for each lift of the early ones.
+         */
+        private boolean settleByThirds() {
+            boolean isNew = true;
+            for (int pass = 0; pass < PASSES && isNew; pass++) {
+                isNew = false;
+                for (int third = 0; third < MOST_PIECES; third++) {
+                    for (int i = 0; i < MOST_PIECES - 1; i++) {
+                        for (int j = i + 1; j < MOST_PIECES; j++) {
+                            if (fits[i][j] == 0) {
+                                return false;
+                            }
+                            if (fits[i][third] != ALL && fits[third][j] != ALL) {
+                                isNew |= restrict(i, j, sums(fits[i][third], fits[third][j]));
+                            }
+                        }
+                    }
+                }
+            }
+            return true;
+        }
+
+        private static int sums(int some, int others) {
+            int bits = 0;
+            for (int d = -FAR; d <= FAR; d++) {
+                if ((some >> d + FAR & 1) == 1) {
+                    bits |= d < 0 ? others >> -d : others << d;
+                }
+            }
+            return bits & ALL;
         }
 
         private void join(int piece) {

@@ -129,6 +129,10 @@ public final class PromiseTest {
         dues(11, "no wish", of(m.unseen(), m.wish(2, 3, 0, 0), m.unseen()), 1, 1, 0);
         dues(11, "0 at the eye", of(m.wish(2, 4, -1, 0), m.unseen(), m.wish(2, 8, -1, 1), m.unseen()), 1, 1, 1, 1);
         dues(11, "all alike", of(m.wish(0, 5, 1, 2), m.wish(1, 5, 1, 2), m.unseen(), m.wish(2, 5, 1, 2), m.unseen()), 1, 1, 0, 1, 1);
+        PieceMirror first = with(2);
+        first.eye(0, 1, 0, 0, 99);
+        dues(11, "one eye", of(first.unseen(), first.wish(0, 1, 0, 0), first.unseen()), 1, 1, 0);
+        dues(13, "one eye of the highest price", of(first.cheapest(), first.keep(0)), 99, 0);
         m.wish(2, 6, 1, 2);
         dues(11, "out, or blind", of(m.unseen(), m.put(2, false), m.unseen(), m.put(2, true), m.unseen(), m.blind(4, true), m.unseen()), 0, 1, 1, 0, 0, 0, 1);
     }
@@ -274,6 +278,10 @@ public final class PromiseTest {
         m.pair(2, 1, 5, 3);
         dues(29, "a pair", of(m.ways(), m.pair(0, 1, 6, 1), m.ways()), 33, 1, 4);
         dues(30, "lift", of(m.lift(0), m.lift(1), m.lift(2), m.lift(3), m.lift(4), m.lift(-1)), 0, -5, -3, NONE, UNKNOWN, UNKNOWN);
+        PieceMirror far = with(7);
+        far.reach(6);
+        far.pair(6, 5, 60, 12);
+        dues(30, "as far as may be", of(far.lift(4), far.lift(5), far.lift(6), far.pair(5, 6, 60, 0), far.ways(), far.lift(0)), -6, 6, -6, 1, 0, NONE);
         m.put(0, false);
         dues(30, "the least of these", of(m.lift(0), m.lift(1), m.lift(2), m.ways()), NONE, 0, -3, 2);
         m.reach(1);
