@@ -915,10 +915,23 @@ public final class PieceMirror {
 
         private boolean restrict(int i, int j, int bits) {
             int left = fits[i][j] & bits;
-            boolean isNew = left != fits[i][j];
+            if (left == fits[i][j]) {
+                return false;
+            }
             fits[i][j] = left;
-            fits[j][i] = Integer.reverse(left) >>> 31 - 2 * FAR;
-            return isNew;
+            fits[j][i] = turned(left);
+            return true;
+        }
+
+        /** The differences as seen from the other piece. */
+        private static int turned(int some) {
+            int bits = 0;
+            for (int d = -FAR; d <= FAR; d++) {
+                if ((some >> d + FAR & 1) == 1) {
+                    bits |= 1 << FAR - d;
+                }
+            }
+            return bits;
         }
 
         /**

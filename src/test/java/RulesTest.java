@@ -100,7 +100,7 @@ public final class RulesTest {
             holds("no " + word, !p.matcher(code).find());
         }
         holds("signs 1 to 127", text.chars().allMatch(c -> c > 0 && c < 128));
-        Set<String> library = Set.of("Math.abs", "Math.max", "Math.min", "Math.floorMod", "Integer.bitCount", "Integer.reverse", "System.arraycopy");
+        Set<String> library = Set.of("Math.abs", "Math.max", "Math.min", "Math.floorMod", "Integer.bitCount", "System.arraycopy");
         Matcher m = Pattern.compile("\\b(Math|Integer|Long|System|Arrays)\\.\\w+").matcher(code);
         while (m.find()) holds("in the library: " + m.group(), library.contains(m.group()));
         int lines = 0;
