@@ -12,6 +12,7 @@ import java.util.regex.Pattern;
 
 /** Does the calls of README.md and compares; and holds the class against the face that ../shared/DOC.md writes out. */
 public final class ReadmeTest {
+    private static final String DOCUMENT = "../shared/DOC.md";
     private static final Map<String, Method> CALLS = new TreeMap<>();
     private static int passed = 0, failed = 0;
 
@@ -78,10 +79,15 @@ public final class ReadmeTest {
         return b.append(')').toString();
     }
 
+    /** RulesTest holds the class against a copy of the face: so this may be left out where the document does not lie. */
     private static void face() throws Exception {
+        if (!Files.exists(Path.of(DOCUMENT))) {
+            System.out.println(DOCUMENT + " is not here: its face was not compared");
+            return;
+        }
         TreeSet<String> want = new TreeSet<>();
         int constants = 0;
-        for (String line : code("../shared/DOC.md")) {
+        for (String line : code(DOCUMENT)) {
             Matcher call = Pattern.compile(" *public (int \\w+\\([^)]*\\));").matcher(line);
             if (call.matches()) want.add(call.group(1).replaceAll("(int|boolean) \\w+(?=[,)])", "$1"));
             Matcher constant = Pattern.compile("([A-Z]+) = (-\\d+)").matcher(line);
